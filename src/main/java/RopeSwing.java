@@ -755,9 +755,10 @@ public final class RopeSwing {
             begin();
             int seen = 0;
             // one more round than there are clauses: the last finds the end, or a clause again
-            for (clauses = 0; clauses <= CLAUSES; clauses++) {
+            for (int many = 0; many <= CLAUSES; many++) {
                 take();
                 if (kind == END) {
+                    clauses = many;
                     return true;
                 }
                 int clause = clauseInHand();
@@ -868,7 +869,8 @@ public final class RopeSwing {
 
         /** Takes the next word, NUMBER, sign or the end in hand. */
         private void take() {
-            while (next < text.length() && text.byteAt(next) == ' ') {
+            int end = text.length();
+            while (next < end && text.byteAt(next) == ' ') {
                 next++;
             }
             start = next;
@@ -877,13 +879,13 @@ public final class RopeSwing {
                 kind = END;
             } else if (isLetter(first)) {
                 kind = WORD;
-                while (next < text.length() && isLetter(text.byteAt(next))) {
+                while (next < end && isLetter(text.byteAt(next))) {
                     next++;
                 }
             } else if (isFigure(first)) {
                 kind = NUMBER;
                 value = 0;
-                while (next < text.length() && isFigure(text.byteAt(next))) {
+                while (next < end && isFigure(text.byteAt(next))) {
                     // one of more figures is a FAULT, so its value does not matter
                     value = next - start < 3 ? 10 * value + text.byteAt(next) - '0' : value;
                     next++;
@@ -1196,14 +1198,17 @@ public final class RopeSwing {
             int across = path.across(tick);
             int up = path.up(tick);
             int top = y;
+            int ticks = 0;
             boolean landed = false;
-            for (flown = 0; flown < MOST_FLIGHT && !landed; flown++) {
+            while (ticks < MOST_FLIGHT && !landed) {
+                ticks++;
                 x += across;
                 y += up;
                 up -= 245;
                 top = y > top ? y : top;
                 landed = y <= 0 && (y <= -100 * lower || place.kind(Place.cellAt(x / 100)) == SAND);
             }
+            flown = ticks;
             where = landed ? x / 100 : path.x(tick);
             highest = top / 100;
             turned = turning * flown % 360;

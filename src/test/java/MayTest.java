@@ -8,6 +8,11 @@ public final class MayTest {
         rope("", "50 150 100 2 0");
         rope("bough 400;start 20 50;stones 7,8;sand 12;need 170;", "40 120 60 1 4");
         rope("rope 100 20 0;", "30 100 100 0 0");
+        rope("bough 988;start 78 10;stones 5;sand 8;", "75 79 203 2 36");
+        rope("bough 690;start 69 386;stones 6;sand 23;", "43 168 72 2 1");
+        Check.due("the longest rope", of("bough 988;start 78 10;stones 5;sand 8;", "75 79 203 2 36").rope(0, 0), 900);
+        Check.due("the shortest LENGTH", of("bough 690;start 69 386;stones 6;sand 23;", "43 168 72 2 1").rope(0, 1), 50);
+        onlyTheLastTime();
         turn();
         film();
         age();
@@ -36,6 +41,8 @@ public final class MayTest {
             Check.due("the test's own grip for " + d[0], grip > 300 ? Check.NONE : grip, d[1]);
             Check.due("strong(0, " + d[0] + ")", x.strong(0, d[0]), d[1]);
         }
+        Check.due("the greatest grip", of("start 64 573;", "130 100 10 0 0").strong(0, 72), 300);
+        Check.due("a weaker one slips", of("start 64 573;", "130 100 299 0 0").holds(0, 72, 5) < 0 ? 1 : 0, 1);
         // 200 / grip a TICK
         Check.due("strong(1, 200)", x.strong(1, 200), 34);
         x = of("", "20 100 25 6 12");
@@ -58,6 +65,12 @@ public final class MayTest {
         Check.due("a year", x.heavy(), 10);
         x.set(2, 2);
         Check.due("two years", x.heavy(), Check.NONE);
+        // PULL on 100 behind TICK 0 is 130, behind no later one more than 129
+        Check.due("TICK 0 does not count", of("rope 558 129 0;start 0 410;").heavy(), 100);
+        // 115 behind TICK 1, then 114
+        Check.due("TICK 1 counts", of("rope 131 114 0;start 3 138;").heavy(), 99);
+        // 243 behind TICK 200, 242 ahead of it
+        Check.due("TICK 200 counts", of("rope 721 242 0;start 62 503;").heavy(), 99);
         x = of("rope 450 100 0;", "50 100 10 0 0");
         int heavy = x.heavy();
         Check.holds("a swing pulls more: " + heavy, heavy >= 10 && heavy < 100);
@@ -82,6 +95,17 @@ public final class MayTest {
         Check.due("may of nobody", of("").may(), 0);
         x = of("start 0 0;sand 6;", "10 50 300 0 5", "10 50 300 0 5", "10 50 300 0 5", "10 50 300 0 5", "10 50 300 0 5", "10 50 300 0 5", "10 50 300 0 5", "10 50 300 0 5");
         Check.due("all eight", x.may(), 255);
+    }
+
+    /** Only from TIME 200 one lands in CELL 2, and that alone has no stones. */
+    private static void onlyTheLastTime() {
+        RopeSwing x = of("rope 331 999 0;start 11 92;sand 24;trunk 600;need 0;stones 0,1,3,4,5,6,7,8,9,10,11,12,13,14,15,16,17,18,19,20,21,22,23;", "10 50 300 0 0");
+        Check.due("TIME 200 is GOOD", x.lands(0, 200, 0), 2);
+        Check.due("no other", x.wide(0, 2), 1);
+        Check.due("farthest", x.best(0, 0), 200);
+        Check.due("may", x.may(), 1);
+        Check.due("months", x.months(0), 4095);
+        Check.due("age", x.age(0), Check.NONE);
     }
 
     private static void months() {
@@ -170,6 +194,9 @@ public final class MayTest {
         Check.due("two years", of("start 0 0;rope 450 100 10;", "85 100 300 0 0").age(0), 2);
         Check.due("a year", of("start 0 0;rope 450 100 10;", "91 100 300 0 0").age(0), 1);
         Check.due("not even new", of("start 0 0;rope 450 100 10;", "101 100 300 0 0").age(0), 0);
+        // a hundredth a year, cut, at least 1 above 99: 149 are left in the year 40
+        Check.due("the last year", of("start 0 0;rope 450 189 1;", "150 100 300 0 0").age(0), 40);
+        Check.due("a year more", of("start 0 0;rope 450 190 1;", "150 100 300 0 0").age(0), Check.NONE);
         Check.due("for ever", of("start 0 0;rope 450 100 0;", "85 100 300 0 0").age(0), Check.NONE);
         Check.due("never good", of("start 0 0;stones 6;", "85 100 300 0 0").age(0), 0);
         RopeSwing x = of("start 0 0;rope 450 100 10;", "85 100 300 0 0");

@@ -32,6 +32,7 @@ public final class MeasuresTest {
         Check.due("harmed(3)", x.harmed(3), 6);
         Check.due("harmed(31)", x.harmed(31), 6);
         Check.due("harmed(32)", x.harmed(32), 15);
+        Check.due("harmed(63)", x.harmed(63), 6);
         Check.due("harmed(-1)", x.harmed(-1), Check.OUTSIDE);
         Check.due("harmed(64)", x.harmed(64), Check.OUTSIDE);
         Check.due("enough", x.enough(), Check.NONE);
@@ -58,6 +59,13 @@ public final class MeasuresTest {
         Check.due("a run of 0 ends on the stones", x.harmed(4), 1);
         Check.due("V stays", x.now(4), 600);
         Check.due("enough", x.enough(), 0);
+        // a run of 0 is good at that TIME, the least run would not be
+        String words = "rope 503 200 0;start 2 126;stones 6;";
+        x = of(words, "53 50 300 0 0");
+        int time = x.best(0, 0);
+        x.set(4, 1);
+        Check.due("a run of 1 ends on the stones", x.lands(0, time, 0), 3);
+        Check.due("a run of 0", of(words, "53 50 300 0 0").harmed(4), 0);
         // too much run: the rope breaks
         x = of("start 0 600;rope 450 50 0;", "45 100 300 0 0");
         Check.due("the rope breaks", x.lands(0, 20, 0), 7);

@@ -47,7 +47,7 @@ public final class ModelTest {
 
     private static void step(int run, RopeSwing x, Model m) {
         int s = draw(14) == 0 ? draw(11) - 2 : draw(Math.max(1, m.swingers.size()));
-        int t = draw(12) == 0 ? draw(203) - 1 : 1 + draw(80);
+        int t = draw(12) == 0 ? draw(203) - 1 : draw(4) == 0 ? 201 - (1 + draw(60)) : 1 + draw(80);
         int what = draw(7) - (draw(9) == 0 ? 1 : 0);
         String at = "run " + run + ": ";
         String st = "(" + s + ", " + t + ")";
@@ -76,7 +76,7 @@ public final class ModelTest {
             case 22: case 23: int b = draw(4) - 1; Check.due(at + "goBack", x.goBack(b), m.goBack(b)); break;
             case 24: both(run, x, m, placeText(draw(3) == 0), true); break;
             case 25: both(run, x, m, swingerText(draw(3) == 0), false); break;
-            case 26: if (draw(8) == 0) { Check.due(at + "rope " + s, x.rope(s, what % 4), m.rope(s, what % 4)); } break;
+            case 26: if (draw(3) == 0) { Check.due(at + "rope " + s, x.rope(s, what % 4), m.rope(s, what % 4)); } break;
             default: set(at, x, m);
         }
         all(at, x, m);
@@ -175,8 +175,9 @@ public final class ModelTest {
 
     private static String swingerText(boolean wild) {
         StringBuilder b = new StringBuilder(blanks());
-        b.append(number(10, 150, wild)).append(' ').append(number(50, 220, wild)).append(' ');
-        b.append(number(10, 300, wild)).append(' ').append(number(0, 20, wild)).append(' ').append(number(0, 36, wild)).append(blanks());
+        boolean holdsLong = draw(2) == 0;
+        b.append(number(10, holdsLong ? 40 : 150, wild)).append(' ').append(number(50, 220, wild)).append(' ');
+        b.append(number(holdsLong ? 150 : 10, 300, wild)).append(' ').append(number(0, holdsLong ? 2 : 20, wild)).append(' ').append(number(0, 36, wild)).append(blanks());
         if (wild) {
             spoil(b);
         }

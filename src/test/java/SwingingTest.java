@@ -6,15 +6,19 @@ public final class SwingingTest {
         sines();
         holding();
         holdingAtRest();
+        pulls();
         refusals();
         flightOfOneWhoFalls();
         landingOnWhat();
         roundOrFlat();
+        nearlyRound();
         slipping();
         breaking();
         dragged();
         back();
         hanging();
+        atTheLastTick();
+        anotherBough();
         cellsOfX();
         stopsAreThoseOfHolding();
         beyondUpright();
@@ -31,6 +35,13 @@ public final class SwingingTest {
         return x;
     }
 
+    private static RopeSwing of(String words, String swinger) {
+        RopeSwing x = new RopeSwing();
+        Check.place(x, words);
+        Check.swinger(x, swinger);
+        return x;
+    }
+
     private static void lands(String when, RopeSwing x, int s, int time, int... due) {
         for (int k = 0; k < due.length; k++) {
             Check.due(when + ": lands(" + s + ", " + time + ", " + k + ")", x.lands(s, time, k), due[k]);
@@ -44,6 +55,12 @@ public final class SwingingTest {
         for (int[] d : due) {
             Check.due("sine(" + d[0] + ")", x.sine(d[0]), d[1]);
             Check.due("sine(-" + d[0] + ")", x.sine(-d[0]), -d[1]);
+        }
+        for (int from = 0; from <= 1800; from += 400) {
+            RopeSwing y = new RopeSwing();
+            for (long a = from; a <= Math.min(1800, from + 399); a++) {
+                Check.due("sine(" + a + ")", y.sine((int) a), 4000 * a * (1800 - a) / (4050000 - a * (1800 - a)));
+            }
         }
         for (int a : new int[] {1801, -1801, Integer.MAX_VALUE, Integer.MIN_VALUE}) {
             Check.due("sine(" + a + ")", x.sine(a), Check.OUTSIDE);
@@ -86,6 +103,24 @@ public final class SwingingTest {
         Check.due("whatever comes", x.holds(1, 200, 5), 1000 - 200 * 200);
     }
 
+    /** PULL behind every TICK, above the bough too: there it would be below 0. */
+    private static void pulls() {
+        int none = 0;
+        for (int from = 1; from <= 200; from += 100) {
+            RopeSwing x = new RopeSwing();
+            Check.place(x, "rope 200 999 0;start 80 350;");
+            Check.swinger(x, "150 50 300 0 0");
+            for (int t = from; t < from + 100; t++) {
+                int angle = Math.min(1800, Math.abs(x.holds(0, t, 0) / 100));
+                long pace = x.holds(0, t, 1);
+                long pull = 150 * (x.sine(900 - angle) / 10 + pace * pace * 200 / 80500000) / 100;
+                none += pull < 0 ? 1 : 0;
+                Check.due("PULL behind " + t, x.holds(0, t, 4), Math.max(0, pull));
+            }
+        }
+        Check.holds("somewhere there is none", none > 0);
+    }
+
     private static void refusals() {
         RopeSwing x = rest("", "40 100 80 0 0");
         Check.due("holds(1, -1, 9)", x.holds(1, -1, 9), Check.UNKNOWN);
@@ -111,9 +146,11 @@ public final class SwingingTest {
         lands("TURNED is left over by 360", rest("rope 266 300 0;", "40 100 80 0 36"), 0, 1, FLAT, 0, 1, 16, 294, 216);
         // feet at 0 at the start of it: the first TICK still counts
         lands("feet at 0", rest("rope 560 300 0;", "40 100 80 0 0"), 0, 1, DEEP, 0, 1, 1, 0, 0);
+        // a hundredth above the sand is not at it: that is so behind TICK 14
+        RopeSwing x = of("rope 509 999 0;start 36 153;sand 1;", "10 50 300 0 0");
+        lands("a hundredth above", x, 0, 41, OVER, 329, 41, 15);
         // up and forward: the highest feet are above both ends
-        RopeSwing x = new RopeSwing();
-        Check.swinger(x, "50 150 100 2 0");
+        x = of("", "50 150 100 2 0");
         int u = x.holds(0, 32, 1) * 450 / 573;
         int angle = x.holds(0, 32, 0) / 100;
         int across = u * x.sine(900 - Math.abs(angle)) / 1000;
@@ -156,6 +193,22 @@ public final class SwingingTest {
         for (int[] d : due) {
             lands("turning " + d[0], rest("rope 303 300 0;", "40 100 80 0 " + d[0]), 0, 1, d[1], 0, 1, 15, 257, d[2]);
         }
+    }
+
+    /** A little too much, and a little too little to be ROUND. */
+    private static void nearlyRound() {
+        RopeSwing x = new RopeSwing();
+        Check.place(x, "bough 999;rope 795 999 0;start 76 579;months 300;sand 24;need 0;");
+        Check.swinger(x, "10 50 300 0 7");
+        Check.due("TICKS", x.lands(0, 39, 3), 47);
+        Check.due("TURNED", x.lands(0, 39, 5), 329);
+        Check.due("329 is FLAT", x.lands(0, 39, 0), FLAT);
+        // a flight of 31 TICKS: 245 * 31 * 30 / 2 is 113925, of 30: 106575
+        x = new RopeSwing();
+        Check.place(x, "bough 999;rope 100 999 0;start 0 0;months 290;need 0;");
+        Check.swinger(x, "10 50 300 0 1");
+        Check.due("TICKS of one who falls deep", x.lands(0, 1, 3), 31);
+        Check.due("31 is FLAT", x.lands(0, 1, 0), FLAT);
     }
 
     private static void slipping() {
@@ -219,10 +272,42 @@ public final class SwingingTest {
         lands("at the last TICK", x, 0, 200, DEEP, 0, 200, 10);
         lands("by the lag", x, 1, 199, DEEP, 0, 200, 10);
         lands("a TICK too late", x, 1, 200, HANGS, 0, 200, 0, 0, 0);
+        Check.swinger(x, "100 100 10 0 0");
+        lands("another slips", x, 3, 200, SLIPPED, 0, 6);
+        lands("behind one who slips", x, 1, 200, HANGS, 0, 200, 0, 0, 0);
         lands("much too late", x, 2, 181, HANGS, 0, 200, 0, 0, 0);
         x.set(3, 10);
         Check.due("the hands' x then", x.lands(1, 200, 1), x.holds(1, 200, 2));
         Check.holds("it is not 0", x.holds(1, 200, 2) != 0);
+    }
+
+    /** The stops are looked at behind TICK 200, too, ahead of letting go and of HANGS. */
+    private static void atTheLastTick() {
+        RopeSwing x = new RopeSwing();
+        Check.place(x, "start 64 316;rope 143 999 0;");
+        Check.swinger(x, "35 50 171 0 0");
+        Check.swinger(x, "35 50 171 1 0");
+        Check.holds("LEFT behind TICK 199", x.holds(0, 199, 5) >= 0);
+        Check.holds("LEFT behind TICK 200", x.holds(0, 200, 5) < 0);
+        lands("slips at TICK 200", x, 0, 200, SLIPPED);
+        Check.due("its TICK", x.lands(0, 200, 2), 200);
+        lands("slips ahead of HANGS", x, 1, 200, SLIPPED);
+        lands("just ahead", x, 1, 198, x.lands(0, 199, 0), x.lands(0, 199, 1), 199);
+    }
+
+    /** What was asked of one place tells nothing of the next. */
+    private static void anotherBough() {
+        RopeSwing x = new RopeSwing();
+        Check.swinger(x, "10 50 300 0 0");
+        Check.due("height under 660", x.holds(0, 0, 3), 660 - 450 * x.sine(500) / 1000);
+        Check.place(x, "bough 999;");
+        Check.due("height under 999", x.holds(0, 0, 3), 999 - 450 * x.sine(500) / 1000);
+        Check.place(x, "bough 999;rope 900 300 10;");
+        Check.due("height with LENGTH 900", x.holds(0, 0, 3), 999 - 900 * x.sine(500) / 1000);
+        x.set(3, 80);
+        Check.due("ANGLE with A 80", x.holds(0, 0, 0), -80000);
+        x.set(4, 300);
+        Check.due("PACE with V 300", x.holds(0, 0, 1), 2865 * 300 / 900);
     }
 
     /** One who starts at an x far back lets go at once: the CELL is that of where one lands. */

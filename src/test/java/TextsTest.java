@@ -156,6 +156,9 @@ public final class TextsTest {
     private static void faultsOfPlaces() {
         Check.placeFault("knot 5;", 1, 0);
         Check.placeFault("boughs 660;", 1, 0);
+        Check.placeFault("rough 660;", 1, 0);
+        Check.placeFault("bougj 660;", 1, 0);
+        Check.placeFault("boozh 660;", 1, 0);
         Check.placeFault(" boug 660;", 1, 1);
         Check.placeFault("boughrope 660;", 1, 0);
         Check.placeFault("bo ugh 660;", 1, 0);
@@ -165,6 +168,10 @@ public final class TextsTest {
         Check.placeFault("bough\u00e9 660;", 1, 5);
         Check.placeFault("bough\t660;", 1, 5);
         Check.placeFault("bough -66;", 1, 6);
+        Check.placeFault("bough /66;", 1, 6);
+        Check.placeFault("bough :66;", 1, 6);
+        Check.placeFault("bough 660:", 1, 9);
+        Check.placeFault("bough 660/", 1, 9);
         Check.placeFault("bough;", 1, 5);
         Check.placeFault("bough", 1, 5);
         Check.placeFault("bough  ", 1, 7);
@@ -191,6 +198,14 @@ public final class TextsTest {
         Check.placeFault("need 5;needs 5;", 1, 7);
         Check.placeFault("bough 660;rope 450 300 10;start 1 1;trunk 60;need 1;water 1;stones 1;sand 1;months 1;water 1;", 3, 85);
         Check.placeFault("bough 660;rope 450 300 10;start 1 1;trunk 60;need 1;water 1;stones 1;sand 1;months 1;knot 1;", 1, 85);
+        // every word is a word of its own
+        for (String word : "bough rope start trunk need water stones sand months".split(" ")) {
+            Check.placeFault("x" + word.substring(1) + " 1;", 1, 0);
+            Check.placeFault(word.substring(1) + " 1;", 1, 0);
+            Check.placeFault(word + "z 1;", 1, 0);
+            Check.placeFault(word + "{ 1;", 1, word.length());
+            Check.placeFault(word + "` 1;", 1, word.length());
+        }
         // the first byte that has one
         Check.placeFault("need 999;need 5;", 2, 5);
         Check.placeFault("need 5;need 999;", 3, 7);
