@@ -522,6 +522,7 @@ public final class RopeSwing {
 
     /** Makes the jump that of a SWINGER as all is IN HAND. */
     private void ready(Swinger one) {
+        // traceNow() would make the deepest calls one deeper
         path.trace(place.number(BOUGH), lengthNow(), state.inHand(START), state.inHand(RUN));
         jump.strength = strengthAfter(state.inHand(YEARS));
         jump.lower = lowerNow();

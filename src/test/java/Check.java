@@ -44,6 +44,16 @@ final class Check {
         return x.swinger();
     }
 
+    /** A new object with THE PLACE and the SWINGERS of these texts. */
+    static RopeSwing of(String words, String... swingers) {
+        RopeSwing x = new RopeSwing();
+        place(x, words);
+        for (String s : swingers) {
+            swinger(x, s);
+        }
+        return x;
+    }
+
     /** A fault of a text as THE PLACE: its number, and where it is. */
     static void placeFault(String words, int number, int at) {
         RopeSwing x = new RopeSwing();

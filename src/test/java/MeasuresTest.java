@@ -14,18 +14,9 @@ public final class MeasuresTest {
         Check.end("MeasuresTest");
     }
 
-    private static RopeSwing of(String words, String... swingers) {
-        RopeSwing x = new RopeSwing();
-        Check.place(x, words);
-        for (String s : swingers) {
-            Check.swinger(x, s);
-        }
-        return x;
-    }
-
     private static void weights() {
         // over stones all come to harm
-        RopeSwing x = of("start 0 0;stones 6;", "29 100 300 0 0", "30 100 300 0 0", "90 100 300 0 0", "91 100 300 0 0");
+        RopeSwing x = Check.of("start 0 0;stones 6;", "29 100 300 0 0", "30 100 300 0 0", "90 100 300 0 0", "91 100 300 0 0");
         Check.due("harmed(0)", x.harmed(0), 15);
         Check.due("harmed(1)", x.harmed(1), 14);
         Check.due("harmed(2)", x.harmed(2), 7);
@@ -36,11 +27,11 @@ public final class MeasuresTest {
         Check.due("harmed(-1)", x.harmed(-1), Check.OUTSIDE);
         Check.due("harmed(64)", x.harmed(64), Check.OUTSIDE);
         Check.due("enough", x.enough(), Check.NONE);
-        Check.due("nobody is told", of("stones 6;").harmed(0), 0);
+        Check.due("nobody is told", Check.of("stones 6;").harmed(0), 0);
     }
 
     private static void lowWater() {
-        RopeSwing x = of("start 0 0;need 190;months 0,49,50;", "20 100 300 0 0", "50 100 300 0 0");
+        RopeSwing x = Check.of("start 0 0;need 190;months 0,49,50;", "20 100 300 0 0", "50 100 300 0 0");
         Check.due("high water", x.harmed(0), 0);
         x.set(0, 1);
         Check.due("49 lower", x.harmed(32), 3);
@@ -53,7 +44,7 @@ public final class MeasuresTest {
 
     private static void aRunOfNone() {
         // with a run one comes away from the stones under the bough
-        RopeSwing x = of("start 0 600;stones 6;", "50 100 300 0 0");
+        RopeSwing x = Check.of("start 0 600;stones 6;", "50 100 300 0 0");
         Check.holds("far from the stones", x.lands(0, x.best(0, 0), 1) >= 50);
         Check.due("harmed(0)", x.harmed(0), 0);
         Check.due("a run of 0 ends on the stones", x.harmed(4), 1);
@@ -61,13 +52,13 @@ public final class MeasuresTest {
         Check.due("enough", x.enough(), 0);
         // a run of 0 is good at that TIME, the least run would not be
         String words = "rope 503 200 0;start 2 126;stones 6;";
-        x = of(words, "53 50 300 0 0");
+        x = Check.of(words, "53 50 300 0 0");
         int time = x.best(0, 0);
         x.set(4, 1);
         Check.due("a run of 1 ends on the stones", x.lands(0, time, 0), 3);
-        Check.due("a run of 0", of(words, "53 50 300 0 0").harmed(4), 0);
+        Check.due("a run of 0", Check.of(words, "53 50 300 0 0").harmed(4), 0);
         // too much run: the rope breaks
-        x = of("start 0 600;rope 450 50 0;", "45 100 300 0 0");
+        x = Check.of("start 0 600;rope 450 50 0;", "45 100 300 0 0");
         Check.due("the rope breaks", x.lands(0, 20, 0), 7);
         Check.due("harmed(0)", x.harmed(0), 1);
         Check.due("harmed(4)", x.harmed(4), 0);
@@ -77,7 +68,7 @@ public final class MeasuresTest {
 
     private static void aNewRope() {
         // 100, 90, 81
-        RopeSwing x = of("start 0 0;rope 450 100 10;", "85 100 300 0 0", "95 100 300 0 0");
+        RopeSwing x = Check.of("start 0 0;rope 450 100 10;", "85 100 300 0 0", "95 100 300 0 0");
         Check.due("new", x.harmed(0), 0);
         x.set(2, 1);
         Check.due("a year", x.harmed(0), 2);
@@ -90,7 +81,7 @@ public final class MeasuresTest {
 
     private static void aWordSaid() {
         // one slips behind TICK 21; without a GOOD TIME it is TIME 20
-        RopeSwing x = of("start 0 0;", "100 100 40 20 0");
+        RopeSwing x = Check.of("start 0 0;", "100 100 40 20 0");
         Check.due("no GOOD TIME", x.best(0, 0), Check.NONE);
         Check.due("TICK 20 is GOOD", x.odds(0, 1, 0), 0);
         Check.due("harmed(0)", x.harmed(0), 1);
@@ -98,16 +89,16 @@ public final class MeasuresTest {
         Check.due("enough: nobody above 90", x.enough(), 2);
         Check.due("the lag stays", x.who(0, 3), 20);
         // one slips behind TICK 20: a word at TIME 20 is too late
-        x = of("start 0 0;", "105 100 40 20 0");
+        x = Check.of("start 0 0;", "105 100 40 20 0");
         Check.due("a word too late", x.harmed(16), 1);
-        Check.due("enough for both", of("start 0 0;", "90 100 36 20 0").enough(), 16);
+        Check.due("enough for both", Check.of("start 0 0;", "90 100 36 20 0").enough(), 16);
     }
 
     /** The TIME is that of what is so without MEASURES, also where another would be good with them. */
     private static void theFarthestStays() {
-        RopeSwing x = of("start 60 300;water 0,50,100,150,200,250,300,300,300,250,200,150;stones 9,10;sand 14;", "60 160 120 1 0", "25 110 60 3 10", "110 190 200 0 3");
+        RopeSwing x = Check.of("start 60 300;water 0,50,100,150,200,250,300,300,300,250,200,150;stones 9,10;sand 14;", "60 160 120 1 0", "25 110 60 3 10", "110 190 200 0 3");
         for (int measures = 0; measures < 32; measures += 4) {
-            RopeSwing y = of("start 60 300;water 0,50,100,150,200,250,300,300,300,250,200,150;stones 9,10;sand 14;",
+            RopeSwing y = Check.of("start 60 300;water 0,50,100,150,200,250,300,300,300,250,200,150;stones 9,10;sand 14;",
                 "60 160 120 " + ((measures & 16) != 0 ? 0 : 1) + " 0", "25 110 60 " + ((measures & 16) != 0 ? 0 : 3) + " 10", "110 190 200 0 3");
             x.set(2, 5);
             y.set(2, (measures & 8) != 0 ? 0 : 5);
@@ -123,24 +114,24 @@ public final class MeasuresTest {
     }
 
     private static void enough() {
-        Check.due("nobody", of("").enough(), 0);
-        RopeSwing x = of("start 0 0;stones 6;", "29 100 300 0 0");
+        Check.due("nobody", Check.of("").enough(), 0);
+        RopeSwing x = Check.of("start 0 0;stones 6;", "29 100 300 0 0");
         Check.due("one too light", x.enough(), 1);
         Check.swinger(x, "91 100 300 0 0");
         Check.due("one too heavy, too", x.enough(), 3);
-        x = of("start 0 0;stones 6;months 50;", "29 100 300 0 0");
+        x = Check.of("start 0 0;stones 6;months 50;", "29 100 300 0 0");
         Check.due("of like ones the least", x.enough(), 1);
         Check.swinger(x, "91 100 300 0 0");
         Check.due("fewest", x.enough(), 32);
         // a light one over a rope that broke of age, a late one: none of them alone is enough
-        x = of("start 0 0;rope 450 100 10;", "85 100 300 0 0", "90 100 36 20 0");
+        x = Check.of("start 0 0;rope 450 100 10;", "85 100 300 0 0", "90 100 36 20 0");
         x.set(2, 2);
         Check.due("two of them", x.harmed(0), 3);
         Check.due("a rope and a word", x.enough(), 8 + 16);
     }
 
     private static void seeds() {
-        RopeSwing x = of("", "50 150 100 2 0");
+        RopeSwing x = Check.of("", "50 150 100 2 0");
         Check.due("first", x.seed(2147483647), 0);
         Check.due("greatest", x.seed(0), 2147483647);
         Check.due("below", x.seed(-1), Check.OUTSIDE);
@@ -162,8 +153,8 @@ public final class MeasuresTest {
         Check.due("41", x.afternoon(41), Check.OUTSIDE);
         Check.due("nobody", x.afternoon(40), Check.NOT);
         String words = "start 60 300;water 0,50,100,150,200,250,300,300,300,250,200,150;stones 9,10;sand 14;trunk 100;";
-        x = of(words, "60 160 120 1 0", "25 110 60 3 10", "110 190 200 0 3");
-        RopeSwing y = of(words, "60 160 120 1 0", "25 110 60 3 10", "110 190 200 0 3");
+        x = Check.of(words, "60 160 120 1 0", "25 110 60 3 10", "110 190 200 0 3");
+        RopeSwing y = Check.of(words, "60 160 120 1 0", "25 110 60 3 10", "110 190 200 0 3");
         long seed = 4711;
         x.seed(4711);
         int[] ends = new int[9];
@@ -192,7 +183,7 @@ public final class MeasuresTest {
     }
 
     private static void images() {
-        RopeSwing x = of("start 0 0;rope 450 300 10;months 0,1,2;", "10 100 300 0 0");
+        RopeSwing x = Check.of("start 0 0;rope 450 300 10;months 0,1,2;", "10 100 300 0 0");
         Check.due("keep(-1)", x.keep(-1), Check.UNKNOWN);
         Check.due("keep(2)", x.keep(2), Check.UNKNOWN);
         Check.due("goBack(-1)", x.goBack(-1), Check.UNKNOWN);

@@ -27,19 +27,7 @@ public final class SwingingTest {
 
     /** Without a start: one hangs at x 0. */
     private static RopeSwing rest(String words, String... swingers) {
-        RopeSwing x = new RopeSwing();
-        Check.place(x, "start 0 0;" + words);
-        for (String s : swingers) {
-            Check.swinger(x, s);
-        }
-        return x;
-    }
-
-    private static RopeSwing of(String words, String swinger) {
-        RopeSwing x = new RopeSwing();
-        Check.place(x, words);
-        Check.swinger(x, swinger);
-        return x;
+        return Check.of("start 0 0;" + words, swingers);
     }
 
     private static void lands(String when, RopeSwing x, int s, int time, int... due) {
@@ -147,10 +135,10 @@ public final class SwingingTest {
         // feet at 0 at the start of it: the first TICK still counts
         lands("feet at 0", rest("rope 560 300 0;", "40 100 80 0 0"), 0, 1, DEEP, 0, 1, 1, 0, 0);
         // a hundredth above the sand is not at it: that is so behind TICK 14
-        RopeSwing x = of("rope 509 999 0;start 36 153;sand 1;", "10 50 300 0 0");
+        RopeSwing x = Check.of("rope 509 999 0;start 36 153;sand 1;", "10 50 300 0 0");
         lands("a hundredth above", x, 0, 41, OVER, 329, 41, 15);
         // up and forward: the highest feet are above both ends
-        x = of("", "50 150 100 2 0");
+        x = Check.of("", "50 150 100 2 0");
         int u = x.holds(0, 32, 1) * 450 / 573;
         int angle = x.holds(0, 32, 0) / 100;
         int across = u * x.sine(900 - Math.abs(angle)) / 1000;

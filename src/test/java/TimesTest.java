@@ -13,13 +13,6 @@ public final class TimesTest {
         Check.end("TimesTest");
     }
 
-    private static RopeSwing of(String words, String swinger) {
-        RopeSwing x = new RopeSwing();
-        Check.place(x, words);
-        Check.swinger(x, swinger);
-        return x;
-    }
-
     private static void curve(String when, RopeSwing x, int... due) {
         Check.due(when + ": farthest", x.best(0, 0), due[0]);
         Check.due(when + ": highest", x.best(0, 1), due[1]);
@@ -30,20 +23,20 @@ public final class TimesTest {
 
     private static void atRest() {
         // one slips behind TICK 6; all TIMES are alike, so the earliest is the best
-        curve("five TIMES", of("start 0 0;", "100 100 10 0 0"), 1, 1, 5, 1, 5);
-        curve("a lag of two", of("start 0 0;", "100 100 10 2 0"), 1, 1, 3, 1, 3);
-        curve("a lag of four", of("start 0 0;", "100 100 10 4 0"), 1, 1, 1, 1, 1);
-        curve("all", of("start 0 0;", "10 100 300 0 0"), 1, 1, 200, 1, 200);
-        curve("all but the last", of("start 0 0;", "10 100 300 1 0"), 1, 1, 199, 1, 199);
-        curve("on sand", of("start 0 0;sand 6;", "10 100 300 20 9"), 1, 1, 180, 1, 180);
+        curve("five TIMES", Check.of("start 0 0;", "100 100 10 0 0"), 1, 1, 5, 1, 5);
+        curve("a lag of two", Check.of("start 0 0;", "100 100 10 2 0"), 1, 1, 3, 1, 3);
+        curve("a lag of four", Check.of("start 0 0;", "100 100 10 4 0"), 1, 1, 1, 1, 1);
+        curve("all", Check.of("start 0 0;", "10 100 300 0 0"), 1, 1, 200, 1, 200);
+        curve("all but the last", Check.of("start 0 0;", "10 100 300 1 0"), 1, 1, 199, 1, 199);
+        curve("on sand", Check.of("start 0 0;sand 6;", "10 100 300 20 9"), 1, 1, 180, 1, 180);
     }
 
     private static void nobodyIsGood() {
         int none = Check.NONE;
-        curve("too long a lag", of("start 0 0;", "100 100 10 5 0"), none, none, 0, none, 0);
-        curve("stones", of("start 0 0;stones 6;", "10 100 300 0 0"), none, none, 0, none, 0);
-        curve("flat", of("start 0 0;", "10 100 300 0 5"), none, none, 0, none, 0);
-        curve("broken", of("start 0 0;rope 450 20 0;", "30 100 300 0 0"), none, none, 0, none, 0);
+        curve("too long a lag", Check.of("start 0 0;", "100 100 10 5 0"), none, none, 0, none, 0);
+        curve("stones", Check.of("start 0 0;stones 6;", "10 100 300 0 0"), none, none, 0, none, 0);
+        curve("flat", Check.of("start 0 0;", "10 100 300 0 5"), none, none, 0, none, 0);
+        curve("broken", Check.of("start 0 0;rope 450 20 0;", "30 100 300 0 0"), none, none, 0, none, 0);
     }
 
     /** best() and wide() are what lands() of all TIMES tells. */
@@ -57,7 +50,7 @@ public final class TimesTest {
         RopeSwing x = null;
         for (int t = 1; t <= 200; t++) {
             if (t % 80 == 1) {
-                x = of(words, swinger);
+                x = Check.of(words, swinger);
             }
             int end = x.lands(0, t, 0);
             good[t] = end == 1 || end == 2;
@@ -88,7 +81,7 @@ public final class TimesTest {
             }
         }
         Check.holds("'" + words + "' has GOOD TIMES", all > 0);
-        curve("'" + words + "' " + swinger, of(words, swinger), farthest, highest, longest, first, all);
+        curve("'" + words + "' " + swinger, Check.of(words, swinger), farthest, highest, longest, first, all);
     }
 
     /** Of like rows the first. */
@@ -100,7 +93,7 @@ public final class TimesTest {
     }
 
     private static void rowsAlike(String words, int turning, int longest, int first) {
-        RopeSwing x = of(words, "20 100 300 0 " + turning);
+        RopeSwing x = Check.of(words, "20 100 300 0 " + turning);
         int like = 0;
         int row = 0;
         for (int t = 1; t <= 200; t++) {
@@ -114,7 +107,7 @@ public final class TimesTest {
     }
 
     private static void odds() {
-        RopeSwing x = of("start 0 0;", "100 100 10 1 0");
+        RopeSwing x = Check.of("start 0 0;", "100 100 10 1 0");
         // good are the TICKS 1 to 5
         Check.due("at once", x.odds(0, 4, 0), 1000000);
         Check.due("a half", x.odds(0, 4, 1), 500000);
@@ -123,12 +116,12 @@ public final class TimesTest {
         Check.due("four of 41", x.odds(0, 1, 40), 4000000 / 41);
         Check.due("none", x.odds(0, 5, 40), 0);
         Check.due("none at 200", x.odds(0, 200, 40), 0);
-        x = of("start 0 0;", "10 100 300 0 0");
+        x = Check.of("start 0 0;", "10 100 300 0 0");
         Check.due("HANGS behind 200", x.odds(0, 199, 3), 500000);
     }
 
     private static void refusals() {
-        RopeSwing x = of("", "50 150 100 2 0");
+        RopeSwing x = Check.of("", "50 150 100 2 0");
         Check.due("best(1, 9)", x.best(1, 9), Check.UNKNOWN);
         Check.due("best(0, 2)", x.best(0, 2), Check.OUTSIDE);
         Check.due("best(0, -1)", x.best(0, -1), Check.OUTSIDE);
