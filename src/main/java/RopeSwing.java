@@ -679,7 +679,7 @@ public final class RopeSwing {
         }
 
         int depth(int c, int lowerBy) {
-            int depth = at(depths, c) - lowerBy;
+            int depth = c >= 0 && c < depths.length ? depths[c] - lowerBy : 0;
             return depth < 0 ? 0 : depth;
         }
 
