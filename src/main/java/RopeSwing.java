@@ -685,10 +685,10 @@ public final class RopeSwing {
 
         /** Sand goes ahead of stones: CELLS from there on are sand, whatever lies on them. */
         int kind(int c) {
-            if (c >= at(numbers, SAND_FROM)) {
+            if (SAND_FROM < numbers.length && c >= numbers[SAND_FROM]) {
                 return SAND;
             }
-            return at(stones, c) != 0 ? STONES : WATER;
+            return c >= 0 && c < stones.length && stones[c] != 0 ? STONES : WATER;
         }
 
         static int cellAt(int x) {
