@@ -1,10 +1,15 @@
+import java.io.IOException;
 import java.nio.charset.StandardCharsets;
+import java.nio.file.Files;
+import java.nio.file.Paths;
 
 /** What the tests share: answers that are due, texts that are fed. */
 final class Check {
     static final int NONE = -1, UNKNOWN = -1000000001, OUTSIDE = -1000000002, NOT = -1000000003, FULL = -1000000004;
     private static int wrong = 0;
     private static int asked = 0;
+    private static int sentences = 0;
+    private static String document = null;
 
     private Check() {
     }
@@ -14,6 +19,24 @@ final class Check {
         if (got != want) {
             wrong++;
             System.out.println(call + " answered " + got + ", due is " + want);
+        }
+    }
+
+    /** The sentence that the next answers hold to: it stands in the document, word for word (blanks and line ends are alike). */
+    static void says(String sentence) {
+        sentences++;
+        if (document == null) {
+            document = readDocument();
+        }
+        holds("the document says '" + sentence + "'", document.contains(sentence));
+    }
+
+    private static String readDocument() {
+        try {
+            return new String(Files.readAllBytes(Paths.get("../shared/DOC.md")), StandardCharsets.UTF_8).replaceAll("\\s+", " ");
+        } catch (IOException e) {
+            System.out.println("../shared/DOC.md can't be read: " + e);
+            return "";
         }
     }
 
@@ -76,8 +99,41 @@ final class Check {
         due("swingers behind '" + words + "'", x.told(9), 0);
     }
 
+    /** All that can be asked without a swing is the same of both; then what both would go back to is, too. */
+    static void alike(String when, RopeSwing x, RopeSwing y) {
+        sameNow(when, x, y);
+        for (int i = 0; i < 2; i++) {
+            due(when + ": goBack(" + i + ")", x.goBack(i), y.goBack(i));
+            sameNow(when + ", IMAGE " + i, x, y);
+        }
+        due(when + ": place()", x.place(), y.place());
+        due(when + ": fault() of what was fed", x.fault(), y.fault());
+    }
+
+    private static void sameNow(String when, RopeSwing x, RopeSwing y) {
+        due(when + ": fault()", x.fault(), y.fault());
+        for (int k = 0; k <= 10; k++) {
+            due(when + ": told(" + k + ")", x.told(k), y.told(k));
+            due(when + ": now(" + k + ")", x.now(k), y.now(k));
+            due(when + ": ends(" + k + ")", x.ends(k), y.ends(k));
+        }
+        for (int k = 0; k < 24; k++) {
+            due(when + ": cell(" + k + ", " + k % 3 + ")", x.cell(k, k % 3), y.cell(k, k % 3));
+        }
+        for (int s = 0; s < 8; s++) {
+            for (int k = 0; k < 5; k++) {
+                due(when + ": who(" + s + ", " + k + ")", x.who(s, k), y.who(s, k));
+            }
+        }
+        int seed = x.seed(0);
+        due(when + ": THE SEED", y.seed(0), seed);
+        x.seed(seed);
+        y.seed(seed);
+    }
+
     static void end(String test) {
-        System.out.println(test + ": " + asked + " answers, " + wrong + " not as due");
+        String of = sentences == 0 ? "" : " to " + sentences + " sentences";
+        System.out.println(test + ": " + asked + " answers" + of + ", " + wrong + " not as due");
         if (wrong != 0) {
             System.exit(1);
         }
