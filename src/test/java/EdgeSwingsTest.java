@@ -14,6 +14,8 @@ public final class EdgeSwingsTest {
         sines();
         beyondUpright();
         atFirst();
+        inATick();
+        handsAre();
         noPullBelowNone();
         leftOfTheGrip();
         broken();
@@ -25,6 +27,7 @@ public final class EdgeSwingsTest {
         theFirstOfThese();
         heights();
         depth();
+        flight();
         landing();
         sandIsNotLower();
         fourHundredTicks();
@@ -179,6 +182,47 @@ public final class EdgeSwingsTest {
         x = Check.of("rope 100 300 10;start 0 600;", "10 50 300 0 0");
         x.set(1, 50);
         Check.due("the greatest PACE at first", x.holds(0, 0, 1), 34380);
+    }
+
+    private static void inATick() {
+        Check.says("In a TICK: PACE is less by 140 times SINE (of ANGLE / 100) / LENGTH; then ANGLE is PACE more.");
+        // LENGTHs, starts: each TICK from what was behind the one ahead of it; ANGLE / 100 and the loss are cut towards 0
+        int[][] all = {{450, 40, 100}, {900, 80, 600}, {100, 3, 1}, {899, 1, 0}};
+        for (int[] one : all) {
+            RopeSwing x = Check.of("rope " + one[0] + " 300 10;start " + one[1] + " " + one[2] + ";", "10 50 300 0 0");
+            for (int t = 0; t < 60; t++) {
+                int pace = x.holds(0, t, 1) - 140 * x.sine(x.holds(0, t, 0) / 100) / one[0];
+                Check.due("PACE behind " + (t + 1), x.holds(0, t + 1, 1), pace);
+                Check.due("ANGLE behind " + (t + 1), x.holds(0, t + 1, 0), x.holds(0, t, 0) + pace);
+            }
+        }
+        // 140 * 6 / 900 is 0, 140 * 7 / 900 is 1: from SINE 7 on PACE is less
+        RopeSwing x = Check.of("rope 900 300 10;start 1 0;", "10 50 300 0 0");
+        Check.due("SINE of a degree", x.sine(10), 17);
+        Check.due("PACE behind the first TICK", x.holds(0, 1, 1), 140 * 17 / 900);
+        x.set(3, 0);
+        Check.due("one hangs still", x.holds(0, 200, 1), 0);
+        x.set(4, 1);
+        Check.due("a run of 1", x.holds(0, 0, 1), 3);
+        Check.due("nothing is lost at 3 thousandths", x.holds(0, 1, 1), 3);
+    }
+
+    private static void handsAre() {
+        Check.says("x of the hands: LENGTH times SINE / 1000; their height: B less LENGTH times COSINE / 1000.");
+        for (int knot = 0; knot <= 50; knot += 50) {
+            RopeSwing x = Check.of("bough 200;rope 100 999 0;start 80 350;", "10 50 300 0 0");
+            x.set(1, knot);
+            int over = 0;
+            for (int t = 0; t <= 80; t++) {
+                int angle = x.holds(0, t, 0) / 100;
+                int tenths = Math.max(-1800, Math.min(1800, angle));
+                int cosine = x.sine(900 - Math.abs(tenths));
+                Check.due("x behind " + t, x.holds(0, t, 2), (100 - knot) * x.sine(tenths) / 1000);
+                Check.due("height behind " + t, x.holds(0, t, 3), 200 - (100 - knot) * cosine / 1000);
+                over += cosine < 0 ? 1 : 0;
+            }
+            Check.holds("one comes above the bough: " + over, over > 0);
+        }
     }
 
     private static void noPullBelowNone() {
@@ -391,6 +435,44 @@ public final class EdgeSwingsTest {
 
     // ---- FLIGHT
 
+    private static void flight() {
+        Check.says("FLIGHT (one lets go or SLIPS): in hundredths: U = PACE times LENGTH / 573; across U times COSINE / 1000, up U times SINE / 1000; from 100 times x and 100 times the height of the feet. In each TICK: across and up are added, then up is less by 245.");
+        // forth and back, up and down, by letting go and, with the second SWINGER, by slipping behind TICK 11
+        RopeSwing x = Check.of("bough 700;rope 400 999 0;start 70 200;months 30;" + OPEN, "10 60 300 0 0", "10 60 10 0 0");
+        int back = 0;
+        int down = 0;
+        for (int t = 1; t <= 64; t += 3) {
+            flightIs(x, t);
+            back += x.holds(0, t, 1) < 0 ? 1 : 0;
+            down += x.holds(0, t, 1) < 0 == x.holds(0, t, 0) > 0 ? 1 : 0;
+        }
+        Check.holds("forth and back, up and down", back > 3 && back < 19 && down > 3 && down < 19);
+        int slip = x.lands(1, 200, 2);
+        Check.due("one slips", x.lands(1, 200, 0), SLIPPED);
+        for (int k = 1; k <= 4; k++) {
+            Check.due("slipping is like letting go: " + k, x.lands(1, 200, k), x.lands(0, slip, k));
+        }
+    }
+
+    private static void flightIs(RopeSwing x, int t) {
+        int u = x.holds(0, t, 1) * 400 / 573;
+        int angle = x.holds(0, t, 0) / 100;
+        int across = u * x.sine(900 - Math.abs(angle)) / 1000;
+        int up = u * x.sine(angle) / 1000;
+        int at = 100 * x.holds(0, t, 2);
+        int y = 100 * (x.holds(0, t, 3) - 60);
+        int top = y;
+        int ticks = 0;
+        while (ticks == 0 || y > -3000) {
+            at += across;
+            y += up;
+            up -= 245;
+            top = Math.max(top, y);
+            ticks++;
+        }
+        lands("letting go at " + t, x, t, DEEP, at / 100, t, ticks, top / 100, 0);
+    }
+
     private static void landing() {
         Check.says("One LANDS behind the first TICK at which feet are at or below the water's height (at or below 0, if the CELL is sand)");
         // one falls 245 * k * (k - 1) / 2 hundredths in k TICKS: 29400 in 16
@@ -459,7 +541,7 @@ public final class EdgeSwingsTest {
     }
 
     private static void ends() {
-        Check.says("ENDS: 0 HANGS, 1 OVER (LANDS on sand), 2 DEEP (water, no stones, DEPTH is N or more, ROUND), 3 SHORT (stones, or DEPTH is less), 4 FLAT (DEPTH is N or more, not ROUND)");
+        Check.says("ENDS: 0 HANGS, 1 OVER (LANDS on sand), 2 DEEP (water, no stones, DEPTH is N or more, ROUND), 3 SHORT (stones, or DEPTH is less), 4 FLAT (DEPTH is N or more, not ROUND), 5 SLIPPED (wherever one LANDS), 6 BACK, 7 BROKEN, 8 DRAGGED.");
         String six = "water 0,0,0,0,0,0,";
         lands("DEPTH is N", rest(six + "150;", "10 100 300 0 0"), 1, DEEP);
         lands("DEPTH is less", rest(six + "149;", "10 100 300 0 0"), 1, SHORT);
@@ -472,6 +554,11 @@ public final class EdgeSwingsTest {
         lands("deep stones", rest(six + "600;stones 6;", "10 100 300 0 0"), 1, SHORT);
         lands("deep stones, not ROUND", rest(six + "600;stones 6;", "10 100 300 0 9"), 1, SHORT);
         lands("shallow sand, not ROUND", rest(six + "0;sand 6;", "10 100 300 0 9"), 1, OVER);
+        lands("held on", rest("", "10 100 300 1 0"), 200, HANGS);
+        lands("slipped", rest("", "100 100 10 0 0"), 6, SLIPPED);
+        lands("came back", Check.of("rope 100 999 0;start 80 0;trunk 50;", "10 50 300 0 0"), 200, BACK);
+        lands("broke", rest("rope 450 20 0;", "21 50 300 0 0"), 1, BROKEN);
+        lands("was dragged", rest("rope 600 300 0;", "10 100 300 1 0"), 1, DRAGGED);
     }
 
     private static void slippedWherever() {

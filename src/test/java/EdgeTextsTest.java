@@ -9,6 +9,7 @@ public final class EdgeTextsTest {
 
     public static void main(String[] args) {
         theNewObject();
+        fromNoneOn();
         theWholeText();
         eachClauseOnce();
         bough();
@@ -96,6 +97,22 @@ public final class EdgeTextsTest {
         }
         Check.due("THE TEXT", x.told(10), 0);
         Check.due("no fault", x.fault(), NONE);
+    }
+
+    private static void fromNoneOn() {
+        Check.says("What has a number has it from 0 on, as it comes.");
+        RopeSwing x = Check.of("water 7,8;months 3,4;stones 0;");
+        Check.due("the first SWINGER", Check.swinger(x, "10 50 10 0 0"), 0);
+        Check.due("a faulty one has none", Check.swinger(x, "11 50 10 0"), -11);
+        Check.due("the second SWINGER", Check.swinger(x, "12 50 10 0 0"), 1);
+        Check.due("W of 1", x.who(1, 0), 12);
+        Check.due("the first CELL", x.cell(0, 0), 7);
+        Check.due("the second CELL", x.cell(1, 0), 8);
+        Check.due("stones in the first", x.cell(0, 2), 1);
+        Check.due("the first MONTH", x.now(7), 3);
+        x.set(0, 1);
+        Check.due("the second MONTH", x.now(7), 4);
+        Check.due("the first IMAGE", x.keep(0), 1);
     }
 
     // ---- 1 THE PLACE

@@ -313,6 +313,8 @@ public final class EdgeTimesTest {
     }
 
     private static void may() {
+        Check.says("MAY: the SET.");
+        Check.says("A SET is a whole number, bit k for k.");
         Check.says("MAY: SWINGERS who have a GOOD TIME; MONTHS: those in which one has (as a SET).");
         Check.due("nobody is told", new RopeSwing().may(), 0);
         String no = "10 50 300 0 9";
